@@ -201,6 +201,9 @@ public final class HoldersTest {
         holdsFor(x, "not 1 < 2 or 1 < 2", true);
         holdsFor(x, "not (1 < 2 or 1 < 2)", false);
         holdsFor(x, "not not local", true);
+        holdsFor(x, "1 < 2 or (1 > 2)", true);
+        holdsFor(x, "1 > 2 and (1 < 2)", false);
+        holdsFor(x, "1 > 2 and (1 < 2 or 1 < 2) or (1 > 2 or local and not (1 > 2))", true);
         // Of the other one, who is not local and dies a baby of age 0.
         HutRow y = people(1910, 1950);
         y.hut(1, 1, 0);

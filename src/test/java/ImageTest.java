@@ -169,6 +169,22 @@ public final class ImageTest {
         Check.due("13", 13, () -> x.rent(0, 1980, 1980));
         x.back();
         Check.due("5", 5, () -> x.rent(0, 1980, 1980));
+        // All sorts, to none that there was before.
+        HutRow y = new HutRow();
+        y.person(1900, 0, true);
+        y.person(1900, 0, true);
+        y.hut(1, 0, 0);
+        y.event(1950, 1, 0, 1);
+        y.event(1960, 0, 0, 0);
+        y.image();
+        Check.text(y, 0, "to spouse");
+        Check.text(y, 1, "add 5");
+        Check.text(y, 3, "allow 3");
+        Check.due("to spouse", 1, () -> y.holder(0, 1980, 1980));
+        y.back();
+        Check.due("no rights", -1, () -> y.holder(0, 1980, 1980));
+        Check.due("no rents", 0, () -> y.rent(0, 1980, 1980));
+        Check.due("no paint", 255, () -> y.allowed(0, 1980));
     }
 
     private static void counts() {

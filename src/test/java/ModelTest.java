@@ -341,7 +341,9 @@ public final class ModelTest {
                 break;
             case 10:
                 int plank = about(0, y.count(6) - 1);
-                ask("rows()", x::rows, y::rows);
+                if (flag) {
+                    ask("rows()", x::rows, y::rows);
+                }
                 ask("whose(" + plank + ")", () -> x.whose(plank), () -> y.whose(plank));
                 break;
             case 11:

@@ -146,6 +146,13 @@ public final class PlankTest {
         rows(x, 0, 0);
         x.years(10);
         rows(x, 1, 4);
+        // What was asked last tells nothing: the row is looked at anew.
+        Check.due("a row of long ago", 2, () -> x.place(2, 1950, 1980));
+        Check.due("whose(0)", 4, () -> x.whose(0));
+        Check.due("a row of long ago", 2, () -> x.place(2, 1950, 1980));
+        Check.due("rows()", 1, x::rows);
+        Check.does("lost 0", () -> x.lost(2, 0, 0));
+        rows(x, 0, 0);
     }
 
     private static void wrongAsks() {

@@ -56,6 +56,8 @@ public final class RentsTest {
         Check.due("1965, the other one", 5065, () -> x.rent(1, 1965, 1980));
         Check.due("1965 as known in 1979", 5065, () -> x.rent(0, 1965, 1979));
         Check.due("1900", 5000, () -> x.rent(0, 1900, 2099));
+        Check.due("1965 again", 1005, () -> x.rent(0, 1965, 1980));
+        Check.due("1959 again", 5059, () -> x.rent(0, 1959, 1980));
     }
 
     private static void leaves() {

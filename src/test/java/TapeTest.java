@@ -109,6 +109,9 @@ public final class TapeTest {
         wrong(0, "to spouse if", 12);
         wrong(0, "to spouse if ;", 13);
         wrong(0, "to spouse or", 10);
+        wrong(0, "to if local", 3);
+        wrong(0, "if local", 0);
+        wrong(0, "to ; to spouse", 3);
         wrong(0, "add 5", 0);
         wrong(0, "allow 5", 0);
         wrong(0, "to spouse if place < 5", 13);
@@ -120,6 +123,10 @@ public final class TapeTest {
     private static void wrongAmounts() {
         wrong(1, "add", 3);
         wrong(1, "add size", 4);
+        wrong(1, "add if local", 4);
+        wrong(1, "add ; add 5", 4);
+        wrong(1, "add 5 * if local", 8);
+        wrong(1, "add 5 * ; add 5", 8);
         wrong(1, "add 12345", 4);
         wrong(1, "add 00001", 4);
         wrong(1, "add 99999999999999999999", 4);
@@ -143,6 +150,9 @@ public final class TapeTest {
     private static void wrongPaint() {
         wrong(3, "allow", 5);
         wrong(3, "allow 8", 6);
+        wrong(3, "allow 8 if 1<2", 6);
+        wrong(3, "allow if 1<2", 6);
+        wrong(3, "allow ; allow 1", 6);
         wrong(3, "allow 00000", 6);
         wrong(3, "allow size", 6);
         wrong(3, "allow 1*size", 7);

@@ -140,6 +140,9 @@ public final class WaitersTest {
         howLong(x, 8, 2, 4);
         x.freed(0);
         howLong(x, 10, 2, -1);
+        HutRow z = new HutRow();
+        z.freed(1);
+        howLong(z, 10, 10, 10);
         HutRow y = new HutRow();
         y.freed(0);
         howLong(y, 1, -1, -1);
