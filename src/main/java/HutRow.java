@@ -839,8 +839,12 @@ public final class HutRow {
                 return NONE;
             }
             int from = row * width;
-            System.arraycopy(cells, from, cells, from + width, (size - row) * width);
-            Arrays.fill(cells, from, from + width, 0);
+            for (int i = size * width - 1; i >= from; i--) {
+                cells[i + width] = cells[i];
+            }
+            for (int i = from; i < from + width; i++) {
+                cells[i] = 0;
+            }
             size++;
             return row;
         }
@@ -1840,7 +1844,7 @@ public final class HutRow {
             clear();
             for (int hut = 0; hut < told.huts.size(); hut++) {
                 int fitting = fittingTo(hut);
-                for (int set = all; set > 0; set--) {
+                for (int set = all; set > 0 && fitting != 0; set--) {
                     sets[set] = sumOver(set, fitting);
                 }
             }
@@ -1863,7 +1867,7 @@ public final class HutRow {
             clear();
             for (int hut = 0; hut < told.huts.size(); hut++) {
                 int fitting = fittingTo(hut);
-                for (int set = all; set > 0; set--) {
+                for (int set = all; set > 0 && fitting != 0; set--) {
                     sets[set] = joinOver(set, fitting, 1 << plank, 1L << hut);
                 }
             }
@@ -1888,8 +1892,12 @@ public final class HutRow {
             sets[0] = 1;
         }
 
+        /** The PLANKS that can be of a HUT; none, if it has lost none. */
         private int fittingTo(int hut) {
             lost = told.huts.get(hut, LOST);
+            if (lost == 0) {
+                return 0;
+            }
             int colour = told.huts.get(hut, COLOUR);
             int place = replay.placeOf(hut);
             int bits = 0;
