@@ -23,8 +23,8 @@ public final class CornersTest {
         "photo hut year 0:7", "allowed hut year", "breaches hut", "painted hut", "thief 0:365", "thieves flag",
         "fault", "back", "image", "count 0:9"};
     private static final String[] HEADS = {"to", "add", "less", "allow"};
-    private static final String[] THINGS = {"child", "5", "if", "not", "(", ")", "<", "+", "*", "and", "or", "local", "year",
-        ";"};
+    private static final String[] THINGS = {"child", "5", "if", "not", "(", ")", "<", "+", "*", "and", "or", "local",
+        "year", ";"};
 
     private final String[] world;
     private HutRow x;
@@ -49,7 +49,7 @@ public final class CornersTest {
         }
         for (int sort = 0; sort < 4; sort++) {
             String begin = HEADS[sort] + (sort == 0 ? " child" : " 5");
-            texts(sort, "", 4, HEADS[sort]);
+            texts(sort, "", 3, HEADS[sort]);
             texts(sort, begin + " if", 4, HEADS[sort]);
             texts(sort, begin + " if not ( 1 < 2 and not", 3, HEADS[sort]);
             texts(sort, begin + " if ( ( ( ( ( not", 3, HEADS[sort]);
@@ -117,7 +117,8 @@ public final class CornersTest {
     private String onModel(Call call) {
         Method method = MODEL.get(call.name);
         try {
-            Object answer = call.name.equals("feed") ? method.invoke(y, (Object) call.ints()) : method.invoke(y, call.numbers());
+            Object[] numbers = call.name.equals("feed") ? new Object[] {call.ints()} : call.numbers();
+            Object answer = method.invoke(y, numbers);
             return method.getReturnType() == void.class ? "done" : String.valueOf(answer);
         } catch (InvocationTargetException thrown) {
             return "throws " + thrown.getCause().getClass().getSimpleName().replaceAll("Exception$", "");

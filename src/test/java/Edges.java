@@ -12,6 +12,13 @@ import java.util.regex.Pattern;
  * stand in the document: in that promise, or ahead of all promises.
  */
 final class Edges {
+    // Sentences that hold for many promises.
+    static final String FIRST_TOLD = "Of several exceptions the one told first is thrown;";
+    static final String NO_SUCH =
+        "IndexOutOfBoundsException: there is no such PERSON, HUT, YEAR, STORM, PLANK, DAY, PLACE;";
+    static final String BITS = "bits of sets of none count for nothing.";
+    static final String YEARS = "YEARS 1900 to 2099;";
+
     private static final int PROMISES = 44;
 
     /** What stands ahead of all promises, then each promise; empty if the document is not at hand. */

@@ -1,8 +1,10 @@
 /** Promises 22 and 23: toll, dodged. */
 final class SaleEdges {
-    private static final String TOLL = "TOLL: of all SALES known of a YEAR by which a HUT came to b: hundredths (0 to 100) "
+    private static final String TOLL =
+        "TOLL: of all SALES known of a YEAR by which a HUT came to b: hundredths (0 to 100) "
         + "of the PRICE, rounded down, each.";
-    private static final String DODGED = "DODGED: such SALES of any YEAR where the PRICE is below so many times the RENT IN "
+    private static final String DODGED =
+        "DODGED: such SALES of any YEAR where the PRICE is below so many times the RENT IN "
         + "the YEAR before (0 ahead of 1900), and b was not KIN then of who held it.";
     private static final String KIN = "KIN: SPOUSE, CHILDREN, all parents, all other children of these.";
 
@@ -24,9 +26,9 @@ final class SaleEdges {
 
     private static void tollNumbers(Edges edges) {
         for (String year : new String[] {"1899", "2100", "LEAST", "MOST"}) {
-            edges.holds(22, "YEARS 1900 to 2099;", World.of(1, 1, "toll(" + year + ", 5) throws IndexOutOfBounds"));
-            edges.holds(22, "Of several exceptions the one told first is thrown;",
-                World.rich("toll(" + year + ", 101) throws IndexOutOfBounds", "toll(" + year + ", -1) throws IndexOutOfBounds"));
+            edges.holds(22, Edges.YEARS, World.of(1, 1, "toll(" + year + ", 5) throws IndexOutOfBounds"));
+            edges.holds(22, Edges.FIRST_TOLD, World.rich("toll(" + year + ", 101) throws IndexOutOfBounds", "toll("
+                + year + ", -1) throws IndexOutOfBounds"));
         }
         for (String none : new String[] {"-1", "101", "LEAST", "MOST"}) {
             edges.holds(22, "IllegalArgumentException: hundredths are none.",
@@ -36,7 +38,7 @@ final class SaleEdges {
         }
         edges.holds(22, TOLL, World.of(2, 0, "hut(1, 0, 0) = 0", "sale(1950, 0, 1, 9999)", "toll(1950, 0) = 0",
             "toll(1950, 1) = 99", "toll(1950, 99) = 9899", "toll(1950, 100) = 9999"));
-        edges.holds(22, "YEARS 1900 to 2099;", World.of(2, 0, "hut(1, 0, 0) = 0", "sale(1900, 0, 1, 50)",
+        edges.holds(22, Edges.YEARS, World.of(2, 0, "hut(1, 0, 0) = 0", "sale(1900, 0, 1, 50)",
             "sale(2099, 0, 0, 70)", "toll(1900, 100) = 50", "toll(2099, 100) = 70", "toll(1901, 100) = 0",
             "toll(2098, 100) = 0"));
     }
@@ -117,19 +119,21 @@ final class SaleEdges {
             "dodged(1) = 1"));
         // IN the YEAR before, not in its own: by year, by held, by place, by local.
         edges.holds(23, DODGED, World.of(3, 0, "hut(1, 0, 0) = 0", "sale(1950, 0, 1, 0) = 1",
-            "read(1, 'add 5 if year > 1949') = 1", "dodged(99) = 0", "read(1, 'add 5 if year < 1950') = 1", "dodged(1) = 1",
-            "read(1, 'add 5 if held > 48') = 1", "dodged(1) = 1", "read(1, 'add 5 if held > 49') = 1", "dodged(99) = 0"));
+            "read(1, 'add 5 if year > 1949') = 1", "dodged(99) = 0", "read(1, 'add 5 if year < 1950') = 1",
+            "dodged(1) = 1", "read(1, 'add 5 if held > 48') = 1", "dodged(1) = 1", "read(1, 'add 5 if held > 49') = 1",
+            "dodged(99) = 0"));
         edges.holds(23, DODGED, World.of(3, 0, "hut(1, 0, 0) = 0", "hut(1, NONE, 0) = 1", "event(1950, 6, 0, 1)",
-            "sale(1950, 0, 1, 0)", "read(1, 'add 5*place') = 1", "dodged(99) = 0", "event(1949, 6, 0, 1)", "dodged(1) = 1"));
+            "sale(1950, 0, 1, 0)", "read(1, 'add 5*place') = 1", "dodged(99) = 0", "event(1949, 6, 0, 1)",
+            "dodged(1) = 1"));
         // All SALES of the YEARS before have come by then.
         edges.holds(23, DODGED, World.of(3, 0, "hut(1, 0, 0) = 0", "read(1, 'add 1*held') = 1", "sale(1950, 0, 1, 0)",
             "sale(1951, 0, 2, 0)", "dodged(99) = 1", "sale(1953, 0, 0, 0)", "dodged(99) = 2"));
     }
 
     private static void noneDodged(Edges edges) {
-        edges.holds(23, "DODGED: such SALES", World.of(3, 1, "read(1, 'add 50') = 1", "sale(1950, 0, 1, 0)", "dodged(99) = 0",
-            "event(1940, 5, 0, 1)", "dodged(99) = 0", "sale(1951, 0, 2, 0)", "dodged(99) = 1", "event(1945, 0, 2, 0)",
-            "dodged(99) = 0"));
+        edges.holds(23, "DODGED: such SALES", World.of(3, 1, "read(1, 'add 50') = 1", "sale(1950, 0, 1, 0)",
+            "dodged(99) = 0", "event(1940, 5, 0, 1)", "dodged(99) = 0", "sale(1951, 0, 2, 0)", "dodged(99) = 1",
+            "event(1945, 0, 2, 0)", "dodged(99) = 0"));
         edges.holds(23, "DODGED of all YEARS, as known TODAY: how many SALES.", World.of(3, 0, "hut(1, 0, 0) = 0",
             "read(1, 'add 50') = 1", "dodged(99) = 0", "sale(1950, 0, 1, 0)", "dodged(1) = 1", "years(1)",
             "event(1949, 1, 0, 1)", "dodged(1) = 0"));
@@ -138,14 +142,16 @@ final class SaleEdges {
         for (int i = 0; i < 40; i++) {
             forty[i] = "sale(1950, 0, " + (1 - i % 2) + ", 0)";
         }
-        edges.holds(23, "DODGED of all YEARS, as known TODAY: how many SALES.", World.and(World.of(2, 0, "hut(1, 0, 0) = 0",
-            "read(1, 'add 1') = 1"), World.and(forty, "dodged(1) = 40")));
+        edges.holds(23, "DODGED of all YEARS, as known TODAY: how many SALES.", World.and(World.of(2, 0,
+            "hut(1, 0, 0) = 0", "read(1, 'add 1') = 1"), World.and(forty, "dodged(1) = 40")));
     }
 
     private static void kin(Edges edges) {
         // 0 holds; 1 is sold to, and is in turn each kind of KIN.
-        String[] sold = World.of(5, 0, "hut(1, 0, 0) = 0", "read(1, 'add 50') = 1", "sale(1950, 0, 1, 0)", "dodged(1) = 1");
-        edges.holds(23, KIN, World.and(sold, "event(1940, 1, 1, 0)", "dodged(1) = 0", "event(1941, 2, 0, 1)", "dodged(1) = 1"));
+        String[] sold = World.of(5, 0, "hut(1, 0, 0) = 0", "read(1, 'add 50') = 1", "sale(1950, 0, 1, 0)",
+            "dodged(1) = 1");
+        edges.holds(23, KIN, World.and(sold, "event(1940, 1, 1, 0)", "dodged(1) = 0", "event(1941, 2, 0, 1)",
+            "dodged(1) = 1"));
         edges.holds(23, KIN, World.and(sold, "event(1940, 3, 0, 1)", "dodged(1) = 0"));
         edges.holds(23, KIN, World.and(sold, "event(1940, 3, 1, 0)", "dodged(1) = 0"));
         // All parents, not the least number alone; all other children, not the ELDEST alone.
@@ -167,7 +173,8 @@ final class SaleEdges {
     }
 
     private static void kinThen(Edges edges) {
-        String[] sold = World.of(5, 0, "hut(1, 0, 0) = 0", "read(1, 'add 50') = 1", "sale(1950, 0, 1, 0)", "dodged(1) = 1");
+        String[] sold = World.of(5, 0, "hut(1, 0, 0) = 0", "read(1, 'add 50') = 1", "sale(1950, 0, 1, 0)",
+            "dodged(1) = 1");
         String sentence = "b was not KIN then of who held it.";
         edges.holds(23, sentence, World.and(sold, "event(1951, 1, 0, 1)", "dodged(1) = 1", "event(1949, 1, 0, 1)",
             "dodged(1) = 0"));

@@ -189,7 +189,8 @@ final class TextEdges {
         wrong(3, WORDS, "allo 5", 0);
         wrong(3, WORDS, "allows 5", 0);
         // The bytes ahead of a and behind z are of no word; nor are capitals, or what is above 127.
-        for (char sign : new char[] {'`', '{', 'A', 'Z', '@', '[', '_', '\u00e0', '\u00fa', '\u00ff', '\u0001', '\u007f'}) {
+        char[] signs = {'`', '{', 'A', 'Z', '@', '[', '_', '\u00e0', '\u00fa', '\u00ff', '\u0001', '\u007f'};
+        for (char sign : signs) {
             wrong(0, WORDS, sign + "to child", 0);
             wrongFrom(0, WORDS, "to", sign + " child");
             wrongFrom(0, WORDS, "to child", "" + sign);
@@ -285,7 +286,7 @@ final class TextEdges {
                     wrongFrom(sort, WRONG, FIRST[sort] + "; ", start + " 5");
                 }
             }
-            for (String thing : new String[] {"if", "5", "(", ")", "*", "+", "<", ">", "not", "local", "year", "spouse"}) {
+            for (String thing : new String[] {"if", "5", "(", ")", "*", "+", "<", ">", "not", "local", "year"}) {
                 wrongFrom(sort, WRONG, "", thing);
             }
             for (String thing : new String[] {"5", "(", ")", "+", "<", ">", "not", "local", "year", "and", "or",
@@ -356,7 +357,8 @@ final class TextEdges {
         for (String text : cut) {
             cutOff(0, text);
         }
-        for (String text : new String[] {"add", "less", "add 5*", "add 5 if", "add 5;", "add 5 if 1", "less 5*size if"}) {
+        String[] amounts = {"add", "less", "add 5*", "add 5 if", "add 5;", "add 5 if 1", "less 5*size if"};
+        for (String text : amounts) {
             cutOff(1, text);
         }
         for (String text : new String[] {"add", "less", "add 5*", "add 5 if", "add 5;"}) {

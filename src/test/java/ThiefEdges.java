@@ -1,6 +1,7 @@
 /** Promises 40 and 41: thief, thieves. */
 final class ThiefEdges {
-    private static final String THIEVES = "THIEVES: NIGHTS (0 to 365; at most 12): the least PERIOD (2 to 40) by which all have "
+    private static final String THIEVES =
+        "THIEVES: NIGHTS (0 to 365; at most 12): the least PERIOD (2 to 40) by which all have "
         + "one rest; NEXT: the first such NIGHT behind the last of all; none without two NIGHTS or a PERIOD.";
 
     private ThiefEdges() {
@@ -18,18 +19,19 @@ final class ThiefEdges {
         for (String night : new String[] {"-1", "366", "LEAST", "MOST"}) {
             edges.holds(40, "THIEVES: NIGHTS (0 to 365; at most 12)", "thief(" + night + ") throws IllegalArgument",
                 "thief(5) = 1", "thief(" + night + ") throws IllegalArgument", "thieves(false) = -1");
-            edges.holds(40, "IllegalArgumentException: it is none;", World.rich("thief(" + night + ") throws IllegalArgument",
-                "thief(0) = 4"));
+            edges.holds(40, "IllegalArgumentException: it is none;", World.rich("thief(" + night
+                + ") throws IllegalArgument", "thief(0) = 4"));
         }
-        edges.holds(40, "THIEVES: NIGHTS (0 to 365; at most 12)", "thief(0) = 1", "thief(365) = 2", "thieves(false) = 5",
-            "thieves(true) = 370");
+        edges.holds(40, "THIEVES: NIGHTS (0 to 365; at most 12)", "thief(0) = 1", "thief(365) = 2",
+            "thieves(false) = 5", "thieves(true) = 370");
     }
 
     private static void many(Edges edges) {
         edges.holds(40, "UnsupportedOperationException: there are 12.", "11 times thief(4) = 11", "thief(8) = 12",
-            "thief(9) throws UnsupportedOperation", "thief(4) throws UnsupportedOperation", "thieves(false) = 2", "thieves(true) = 10");
-        edges.holds(40, "Of several exceptions the one told first is thrown;", "12 times thief(4) = 12",
-            "thief(366) throws IllegalArgument", "thief(-1) throws IllegalArgument", "thief(365) throws UnsupportedOperation");
+            "thief(9) throws UnsupportedOperation", "thief(4) throws UnsupportedOperation", "thieves(false) = 2",
+            "thieves(true) = 10");
+        edges.holds(40, Edges.FIRST_TOLD, "12 times thief(4) = 12", "thief(366) throws IllegalArgument",
+            "thief(-1) throws IllegalArgument", "thief(365) throws UnsupportedOperation");
         edges.holds(40, "UnsupportedOperationException: there are 12.", World.rich("9 times thief(5) = 12",
             "thief(5) throws UnsupportedOperation"));
         // The twelfth counts as all others do.
@@ -44,8 +46,8 @@ final class ThiefEdges {
         edges.holds(41, THIEVES, "thief(5) = 1", "thief(6) = 2", "thieves(false) = -1", "thieves(true) = -1");
         edges.holds(41, THIEVES, "thief(0) = 1", "thief(41) = 2", "thieves(false) = -1", "thieves(true) = -1");
         edges.holds(41, THIEVES, "thief(41) = 1", "thief(0) = 2", "thieves(false) = -1");
-        edges.holds(41, THIEVES, "thief(4) = 1", "thief(8) = 2", "thieves(false) = 2", "thief(9) = 3", "thieves(false) = -1",
-            "thieves(true) = -1");
+        edges.holds(41, THIEVES, "thief(4) = 1", "thief(8) = 2", "thieves(false) = 2", "thief(9) = 3",
+            "thieves(false) = -1", "thieves(true) = -1");
     }
 
     private static void periods(Edges edges) {
@@ -56,10 +58,11 @@ final class ThiefEdges {
         // 82 is twice 41: the least PERIOD is 2. 40 goes by 2, and so never by 40.
         edges.holds(41, THIEVES, "thief(0) = 1", "thief(82) = 2", "thieves(false) = 2");
         edges.holds(41, THIEVES, "thief(0) = 1", "thief(40) = 2", "thieves(false) = 2");
-        edges.holds(41, THIEVES, "thief(0) = 1", "thief(35) = 2", "thieves(false) = 5", "thief(49) = 3", "thieves(false) = 7",
-            "thief(50) = 4", "thieves(false) = -1");
+        edges.holds(41, THIEVES, "thief(0) = 1", "thief(35) = 2", "thieves(false) = 5", "thief(49) = 3",
+            "thieves(false) = 7", "thief(50) = 4", "thieves(false) = -1");
         // One rest need not be 0, and is of all, not of those one behind another alone.
-        edges.holds(41, THIEVES, "thief(21) = 1", "thief(10) = 2", "thief(32) = 3", "thieves(false) = 11", "thieves(true) = 43");
+        edges.holds(41, THIEVES, "thief(21) = 1", "thief(10) = 2", "thief(32) = 3", "thieves(false) = 11",
+            "thieves(true) = 43");
         // A NIGHT that is told twice.
         edges.holds(41, THIEVES, "thief(5) = 1", "thief(5) = 2", "thieves(false) = 2", "thieves(true) = 7");
         edges.holds(41, THIEVES, "thief(365) = 1", "thief(365) = 2", "thieves(false) = 2", "thieves(true) = 367");
