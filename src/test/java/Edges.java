@@ -2,6 +2,9 @@ import java.io.IOException;
 import java.nio.charset.StandardCharsets;
 import java.nio.file.Files;
 import java.nio.file.Path;
+import java.util.ArrayList;
+import java.util.Arrays;
+import java.util.List;
 import java.util.Set;
 import java.util.TreeSet;
 import java.util.regex.Matcher;
@@ -24,9 +27,13 @@ final class Edges {
     /** What stands ahead of all promises, then each promise; empty if the document is not at hand. */
     private final String[] sections;
     private final Set<String> thrown = new TreeSet<>();
-    private final int[] tests = new int[PROMISES + 1];
+    /** What tests of each promise quote; of no promise, what any of them quotes. */
+    private final List<Set<String>> quoted = new ArrayList<>();
 
     Edges() throws IOException {
+        for (int promise = 0; promise <= PROMISES; promise++) {
+            quoted.add(new TreeSet<>());
+        }
         Path path = Path.of(System.getProperty("hutrow.document", "../shared/DOC.md"));
         if (!Files.isReadable(path)) {
             System.out.println("no document at " + path + ": its words are not looked up");
@@ -34,7 +41,8 @@ final class Edges {
             return;
         }
         String whole = new String(Files.readAllBytes(path), StandardCharsets.UTF_8);
-        sections = whole.replaceAll("\\s+", " ").split("## (?=Promise \\d+:|Not promised)");
+        String words = whole.replaceAll("(?s)```java.*?```", " ").replaceAll("```(?:text)?", " ");
+        sections = words.replaceAll("\\s+", " ").split("## (?=Promise \\d+:|Not promised)");
         Check.due("the document's parts", PROMISES + 2, () -> sections.length);
     }
 
@@ -43,7 +51,8 @@ final class Edges {
         String name = "Promise " + promise + ", \"" + sentence + "\"";
         Check.isTrue(name + " stands in the document",
             sections.length == 0 || sections[0].contains(sentence) || sections[promise].contains(sentence));
-        tests[promise]++;
+        quoted.get(0).add(sentence);
+        quoted.get(promise).add(sentence);
         for (String row : rows) {
             if (Run.thrownBy(row) != null) {
                 Call call = Run.callsOf(row).get(Run.callsOf(row).size() - 1);
@@ -56,11 +65,34 @@ final class Edges {
     /** Every promise has a test, and every exception that a promise names has one that asks for it. */
     void allAreThere() {
         for (int promise = 1; promise <= PROMISES; promise++) {
-            Check.isTrue("Promise " + promise + " has a test", tests[promise] > 0);
+            Check.isTrue("Promise " + promise + " has a test", !quoted.get(promise).isEmpty());
             if (sections.length > 0) {
                 exceptionsOf(promise);
             }
         }
+        for (int part = 0; part < Math.min(sections.length, PROMISES + 1); part++) {
+            int number = part;
+            Check.due("words of part " + part + " that no test quotes", "[]", () -> wordsWithoutTest(number));
+        }
+    }
+
+    /** Headings, and what the class is for, need no test. */
+    private List<String> wordsWithoutTest(int part) {
+        String text = sections[part].replaceAll("^Promise \\d+: [\\w ]+ `[^`]*`:", "").replaceAll("==== \\d\\.", "")
+            .replaceAll("^.*(?=An object is used for)|#+ (The public face|Terms)|what later calls answer is free\\.", "");
+        char[] left = text.toCharArray();
+        for (String sentence : quoted.get(part)) {
+            for (int at = text.indexOf(sentence); at >= 0; at = text.indexOf(sentence, at + 1)) {
+                Arrays.fill(left, at, at + sentence.length(), '\n');
+            }
+        }
+        List<String> words = new ArrayList<>();
+        for (String row : new String(left).split("\n+")) {
+            if (row.matches(".*[A-Za-z0-9].*")) {
+                words.add(row.trim());
+            }
+        }
+        return words;
     }
 
     private void exceptionsOf(int promise) {

@@ -20,6 +20,7 @@ public final class EdgesTest {
         PaintEdges.tell(edges);
         ThiefEdges.tell(edges);
         ImageEdges.tell(edges);
+        WordsEdges.tell(edges);
         edges.allAreThere();
         Check.close();
     }
