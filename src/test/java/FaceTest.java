@@ -1,12 +1,18 @@
+import java.io.IOException;
 import java.lang.reflect.Constructor;
 import java.lang.reflect.Field;
 import java.lang.reflect.Member;
 import java.lang.reflect.Method;
 import java.lang.reflect.Modifier;
+import java.nio.charset.StandardCharsets;
+import java.nio.file.Files;
+import java.nio.file.Path;
 import java.util.ArrayList;
 import java.util.Arrays;
 import java.util.Collections;
 import java.util.List;
+import java.util.regex.Matcher;
+import java.util.regex.Pattern;
 
 /** The public face is the document's, with its exceptions, and nothing more. */
 public final class FaceTest {
@@ -33,7 +39,7 @@ public final class FaceTest {
         "int breaches(int) " + I, "int painted(int) " + I, "int thief(int) " + A + " " + U,
         "int thieves(boolean)", "void image()", "boolean back()", "int count(int)"};
 
-    public static void main(String[] args) {
+    public static void main(String[] args) throws IOException {
         List<String> want = new ArrayList<>(Arrays.asList(METHODS));
         List<String> got = new ArrayList<>();
         List<String> hidden = new ArrayList<>();
@@ -48,6 +54,10 @@ public final class FaceTest {
         Collections.sort(want);
         Collections.sort(got);
         Check.due("the methods", want, () -> got);
+        Path document = Path.of(System.getProperty("hutrow.document", "../shared/DOC.md"));
+        if (Files.isReadable(document)) {
+            Check.due("the document's methods", want, () -> methodsIn(document));
+        }
         for (String method : want) {
             String name = method.substring(method.indexOf(' ') + 1, method.indexOf('('));
             Check.isTrue("no private " + name, !hidden.contains(name));
@@ -66,6 +76,24 @@ public final class FaceTest {
         }
         Check.due("fields and constructors", "[public static final int HutRow.NONE, public HutRow()]", () -> open);
         Check.close();
+    }
+
+    /** The methods of the document's face, told as those of the class are. */
+    private static List<String> methodsIn(Path document) {
+        List<String> methods = new ArrayList<>();
+        try {
+            String text = new String(Files.readAllBytes(document), StandardCharsets.UTF_8);
+            Matcher row = Pattern.compile("(?m)^    public (\\w+ \\w+)\\((.*?)\\)(?: throws (.*))?;$").matcher(text);
+            while (row.find()) {
+                String types = row.group(2).replaceAll(" \\w+(, |$)", ",").replaceAll(",$", "");
+                String thrown = row.group(3) == null ? "" : " " + row.group(3).replace(",", "");
+                methods.add(row.group(1) + "(" + types + ")" + thrown);
+            }
+        } catch (IOException unread) {
+            methods.add(unread.toString());
+        }
+        Collections.sort(methods);
+        return methods;
     }
 
     private static String told(Method method) {
